@@ -47,7 +47,7 @@ public final class ProofCourt {
     }
 
     public int read() {
-        Formula told = Formula.from(text);
+        Formula told = Formula.formulaIn(text);
         int fault = text.start;
         text.clear();
         if (told == null) {
@@ -94,7 +94,7 @@ public final class ProofCourt {
     }
 
     public int line() {
-        Line told = Line.from(text, formula.variables);
+        Line told = Line.lineIn(text, formula.variables);
         int fault = text.start;
         text.clear();
         if (told == null) {
@@ -291,7 +291,7 @@ public final class ProofCourt {
         }
 
         /** The literals up to their 0, or null with the walk at the fault. */
-        static Clause from(Text text, int number, int variables) {
+        static Clause clauseIn(Text text, int number, int variables) {
             Clause told = new Clause(number);
             for (int i = 0; i < MAX_TYPED && text.isNumber(-variables, variables); i++) {
                 int literal = text.number;
@@ -333,7 +333,7 @@ public final class ProofCourt {
         }
 
         /** The formula, or null with the walk at the fault. */
-        static Formula from(Text text) {
+        static Formula formulaIn(Text text) {
             text.rewind(true);
             if (!text.passesWord("p") || !text.passesWord("cnf")
                     || !text.passesNumber(1, MAX_VARIABLES)) {
@@ -348,7 +348,7 @@ public final class ProofCourt {
 
         private boolean takesClauses(Text text, int clausesDue) {
             for (int i = 0; i < clausesDue && i < MAX_CLAUSES; i++) {
-                Clause clause = Clause.from(text, i + 1, variables);
+                Clause clause = Clause.clauseIn(text, i + 1, variables);
                 if (clause == null) {
                     return false;
                 }
@@ -414,7 +414,7 @@ public final class ProofCourt {
         }
 
         /** The line, or null with the walk at the fault. */
-        static Line from(Text text, int variables) {
+        static Line lineIn(Text text, int variables) {
             text.rewind(false);
             if (!text.passesNumber(1, MAX_NUMBER)) {
                 return null;
@@ -427,7 +427,7 @@ public final class ProofCourt {
         }
 
         private boolean takesClause(Text text, int variables) {
-            clause = Clause.from(text, number, variables);
+            clause = Clause.clauseIn(text, number, variables);
             return clause != null;
         }
 

@@ -116,6 +116,10 @@ public final class PromisesTest {
         due.section("promise 3, lines that are left out");
         due.reads("c\nc c p cnf\n  c 5\np\nc\ncnf 2\nc 1 2\n1\nc 0\n1\nc\n -2\n c !\n0\nc end", 1);
         due.holds(1, 1, -2);
+        due.reads(" c\np cnf 1 0", 0);
+        due.reads("p cnf 1 0\nc" + "x".repeat(149), -11);
+        due.reads("p cnf 1 0\nc " + "x".repeat(148), 0);
+        due.reads("p cnf 1 1\nc " + "x".repeat(148), -161);
         due.reads("c p cnf 1 0", -12);
         due.reads("cc\np cnf 1 0", -1);
         due.reads("c1\np cnf 1 0", -1);
@@ -505,6 +509,12 @@ public final class PromisesTest {
         due.lines("8 1 2 0 -3 9 -6 0", 1);
         due.lines("9 1 2 0 -3 9 -6 9 -8 0", -1004);
         due.lines("9 1 2 0 -3 9 -6 9 -3 0", -1004);
+        due.reads("p cnf 2 13" + " -1 2 0".repeat(13), 13);
+        due.lines("14 1 -2 0 -1 -2 -3 -4 -5 -6 -7 -8 -9 -10 -11 -12 0", -1012);
+        due.lines("14 1 -2 0 -1 -2 -3 -4 -5 -6 -7 -8 -9 -10 -11 12 0", -1012);
+        due.lines("14 d 13 0", 1);
+        due.lines("14 1 -2 0 -1 -2 -3 -4 -5 -6 -7 -8 -9 -10 -11 12 0", -1012);
+        due.lines("14 1 -2 0 -1 -2 -3 -4 -5 -6 -7 -8 -9 -10 -11 -12 0", 1);
     }
 
     private static void lineKeepsFormula() {
@@ -557,5 +567,11 @@ public final class PromisesTest {
         due.reads("p cnf 10 11 1 2 0 -2 3 0 -3 4 0 -4 5 0 -5 6 0 -6 7 0 -7 8 0 -8 9 0 -9 10 0 -10 1 0"
                 + " -1 0", 11);
         due.same("proves along a chain", due.court.proves(), true);
+        StringBuilder wide = new StringBuilder("p cnf 9 15 1 2 3 8 0 4 5 6 7 -8 0 1 2 3 6 -7 0");
+        for (int v = 1; v <= 6; v++) {
+            wide.append(" -" + v + " 9 0 -" + v + " -9 0");
+        }
+        due.reads(wide.toString(), 15);
+        due.same("proves by many decisions", due.court.proves(), true);
     }
 }
