@@ -10,12 +10,12 @@ import java.util.TreeSet;
 /** Runs drawn from fixed seeds, each call held against a plain second reading of the document. */
 public final class OracleTest {
     private static final int RUNS = 6000;
-    private static final int CALLS = 512;
+    // A formula or a line with all that is asked behind it takes fewer calls than this.
+    private static final int DEAREST = 200;
 
     private final Random random;
     private final Due due;
-    private Model model = new Model();
-    private int calls;
+    private final Model model = new Model();
 
     private OracleTest(int seed, Due due) {
         random = new Random(seed);
@@ -31,7 +31,7 @@ public final class OracleTest {
         }
         System.out.println("lines by their outcome: " + seen);
         for (String kind : new String[] {"holds", "holds by groups", "deletes", "faulty", "fails", "refused"}) {
-            due.same("some line " + kind, seen.getOrDefault(kind, 0) > 100, true);
+            due.expect("some line " + kind, seen.getOrDefault(kind, 0) > 100);
         }
         due.end();
     }
@@ -40,7 +40,7 @@ public final class OracleTest {
         if (random.nextInt(8) > 0) {
             readFormula();
         }
-        while (calls < CALLS) {
+        while (due.callsLeft() > DEAREST) {
             int kind = random.nextInt(20);
             if (kind == 0) {
                 readFormula();
@@ -50,12 +50,14 @@ public final class OracleTest {
                 ask();
             }
         }
+        while (due.callsLeft() > 0) {
+            askLiteral();
+        }
     }
 
     private void readFormula() {
         type(mutated(formulaText(), 6));
         String typed = model.typed.toString();
-        calls++;
         due.same("read " + typed, due.court.read(), model.read());
         askAll();
     }
@@ -63,7 +65,6 @@ public final class OracleTest {
     private void tellLine(TreeMap<String, Integer> seen) {
         type(mutated(lineText(), 12));
         String typed = model.typed.toString();
-        calls++;
         int want = model.line();
         due.same("line " + typed, due.court.line(), want);
         String outcome = want == -2000 ? "refused" : want <= -1000 ? "fails" : want < 0 ? "faulty"
@@ -85,21 +86,22 @@ public final class OracleTest {
     }
 
     private void typeWord(int word, int n) {
-        calls++;
         due.same("type " + word + " " + n, due.court.type(word, n), model.type(word, n));
     }
 
     private void ask() {
-        calls += 3;
         due.same("live", due.court.live(), model.live.size());
         due.same("refuted", due.court.refuted(), model.refuted);
+        askLiteral();
+    }
+
+    private void askLiteral() {
         int number = random.nextInt(5) == 0 ? random.nextInt(1002) - 1 : random.nextInt(40);
         int i = random.nextInt(9) - 1;
         due.same("literal " + number + " " + i, due.court.literal(number, i), model.literal(number, i));
     }
 
     private void askAll() {
-        calls += 20;
         due.same("variables", due.court.variables(), model.variables);
         int[] order = {0, 1, 2, 3};
         int turn = random.nextInt(4);
@@ -107,7 +109,7 @@ public final class OracleTest {
             askFormula(order[(k + turn) % 4]);
         }
         for (int number : new ArrayList<>(model.live.keySet())) {
-            for (int i = 0; i < 7; i++) {
+            for (int i = 0; i <= model.live.get(number).size(); i++) {
                 due.same("literal " + number + " " + i, due.court.literal(number, i),
                         model.literal(number, i));
             }
