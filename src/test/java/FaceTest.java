@@ -61,7 +61,8 @@ public final class FaceTest {
         for (Method method : court.getDeclaredMethods()) {
             if (Modifier.isPublic(method.getModifiers())) {
                 told.add(shown(method));
-                expect(shown(method) + " is called on an object", !Modifier.isStatic(method.getModifiers()));
+                expect(shown(method) + " is called on an object",
+                        !Modifier.isStatic(method.getModifiers()));
                 throwsNothing(method);
             }
         }
@@ -72,7 +73,8 @@ public final class FaceTest {
         for (Field field : court.getDeclaredFields()) {
             expect("the field " + field.getName() + " is private", isPrivate(field));
             expect("the static field " + field.getName() + " is final",
-                    !Modifier.isStatic(field.getModifiers()) || Modifier.isFinal(field.getModifiers()));
+                    !Modifier.isStatic(field.getModifiers())
+                            || Modifier.isFinal(field.getModifiers()));
         }
         Set<String> names = FACE.stream().map(FaceTest::nameOf).collect(Collectors.toSet());
         for (Method method : court.getDeclaredMethods()) {
